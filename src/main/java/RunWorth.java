@@ -1345,7 +1345,7 @@ public final class RunWorth {
 
         long worthExchanged(Means means, Game game, int i, int j, int k) {
             game.exchange(i, j);
-            long worth = worthNow(means, game, k);
+            long worth = means.plainMean(game, 0, 0, k, 0);
             game.exchange(i, j);
             return worth;
         }

@@ -3,7 +3,7 @@ import java.util.Random;
 
 /** Runs of calls by fixed seeds, each call made of RunWorth and of Model: the answers must be the same. */
 public final class AgainstModel {
-    private static final int RUNS = 400;
+    private static final int RUNS = 200;
     private static final int CALLS = 512;
     private static final String[] KEYS = {"single", "double", "fly", "steal", "tire"};
     private static final int[] LEAST = {1, 2, 0, 0, 1};
