@@ -3,8 +3,9 @@ import java.util.Random;
 
 /** Runs of calls by fixed seeds, each call made of RunWorth and of Model: the answers must be the same. */
 public final class AgainstModel {
-    private static final int RUNS = 200;
-    private static final int CALLS = 512;
+    private static final int RUNS = 500;
+    /** Of 512 some are left for the last thing done. */
+    private static final int CALLS = 440;
     private static final String[] KEYS = {"single", "double", "fly", "steal", "tire"};
     private static final int[] LEAST = {1, 2, 0, 0, 1};
     private static final int[] MOST = {2, 3, 1, 20, 99};
@@ -44,9 +45,12 @@ public final class AgainstModel {
         while (calls < CALLS && wrong == before) {
             oneCall();
             same("trouble()", real.trouble(), model.trouble());
-            same("where()", real.where(), model.where());
-            same("fault()", real.fault(), model.fault());
-            same("size()", real.size(), model.size());
+            switch (random.nextInt(4)) {
+                case 0: same("where()", real.where(), model.where()); break;
+                case 1: same("fault()", real.fault(), model.fault()); break;
+                case 2: same("size()", real.size(), model.size()); break;
+                default: break;
+            }
         }
         if (wrong != before) {
             System.out.println("run " + seed + " came to it by .." + told.substring(Math.max(0, told.length() - 600)));
@@ -54,6 +58,7 @@ public final class AgainstModel {
     }
 
     private void same(String call, long got, long want) {
+        calls++;
         if (got != want) {
             wrong++;
             System.out.println(call + " answered " + got + ", the model says " + want);
@@ -61,7 +66,6 @@ public final class AgainstModel {
     }
 
     private void held(String call, long got, long want) {
-        calls++;
         told.append(' ').append(call).append('=').append(want);
         same(call, got, want);
     }

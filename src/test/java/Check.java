@@ -18,6 +18,14 @@ final class Check {
         }
     }
 
+    void alike(String call, String got, String want) {
+        made++;
+        if (!got.equals(want)) {
+            wrong++;
+            System.out.println(title + ": " + call + " told\n  " + got + "\n  due is\n  " + want);
+        }
+    }
+
     /** The call was refused, and trouble() tells why. */
     void refused(String call, RunWorth x, long got, int trouble) {
         due(call, got, RunWorth.NONE);

@@ -16,30 +16,53 @@ public final class StormTests {
 
     private static final Random random = new Random(20);
 
+    private final int[] numbers = new int[5];
+    private boolean wise;
+    private final RunWorth x = new RunWorth();
+    /** It gets the same calls but those that x refused: so it must stand as x does. */
+    private final RunWorth twin = new RunWorth();
+
     public static void main(String[] args) {
-        for (int run = 0; run < 300; run++) {
-            RunWorth x = new RunWorth();
-            for (int call = 0; call < 500; call++) {
-                try {
-                    if (call % 97 == run % 97) {
-                        Check.take(x, TEXTS[random.nextInt(TEXTS.length)]);
-                    }
-                    long before = sum(x);
-                    int score = x.about(4);
-                    long answer = call(x, random.nextInt(36));
-                    if (x.trouble() == 1 || x.trouble() == 2 || x.trouble() == 5) {
-                        check.due("what is refused answers", answer, -1);
-                        check.due("what is refused changes nothing", sum(x), before);
-                        check.due("what is refused changes nothing", x.about(4), score);
-                    }
-                } catch (NoSuchElementException none) {
-                    check.due("it is thrown by named alone", 0, 0);
-                } catch (RuntimeException thrown) {
-                    check.due("run " + run + " call " + call + " threw " + thrown, 1, 0);
-                }
-            }
+        for (int run = 0; run < 1500; run++) {
+            new StormTests().go(run);
         }
         check.end();
+    }
+
+    /** With what is asked at the end an object has less than 512 calls. */
+    private void go(int run) {
+        int calls = 0;
+        while (calls < 400) {
+            if (calls == 0 || random.nextInt(97) == 0) {
+                String text = TEXTS[random.nextInt(TEXTS.length)];
+                check.due("text", Check.take(x, text), Check.take(twin, text));
+                calls += 30;
+            }
+            oneCall(run);
+            calls += 3;
+        }
+        check.due("what is refused changes nothing, run " + run, sum(x), sum(twin));
+    }
+
+    private void oneCall(int run) {
+        int which = random.nextInt(36);
+        for (int i = 0; i < numbers.length; i++) {
+            numbers[i] = some();
+        }
+        wise = random.nextBoolean();
+        try {
+            long answer = call(x, which);
+            int trouble = x.trouble();
+            if (trouble == 1 || trouble == 2 || trouble == 5) {
+                check.due("what is refused answers", answer, -1);
+            } else {
+                check.due("what isn't is answered alike", call(twin, which), answer);
+            }
+        } catch (NoSuchElementException none) {
+            check.due("it is thrown by named alone", which, 35);
+        } catch (RuntimeException thrown) {
+            check.due("run " + run + ", call " + which + " threw " + thrown, 1, 0);
+        }
     }
 
     private static int some() {
@@ -58,13 +81,12 @@ public final class StormTests {
         return sum;
     }
 
-    private static long call(RunWorth x, int which) {
-        int a = some();
-        int b = some();
-        int c = some();
-        int d = some();
-        int e = some();
-        boolean wise = random.nextBoolean();
+    private long call(RunWorth x, int which) {
+        int a = numbers[0];
+        int b = numbers[1];
+        int c = numbers[2];
+        int d = numbers[3];
+        int e = numbers[4];
         switch (which) {
             case 0: return x.text(a);
             case 1: return x.about(a);
