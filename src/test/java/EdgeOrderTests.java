@@ -126,6 +126,9 @@ public final class EdgeOrderTests {
         x.shift(1, 0, 4, 1);
         check.due("b ahead", x.exchanged(0, 1, 2), 1);
         best("b ahead", x, 2, 9, 400, 1, 0);
+        // a TRIPLE of 2, then 4 SINGLES, 2 TRIPLES; or a SINGLE of 3, then 2 TRIPLES: 12 and 6 of 400
+        best("SINGLES at FACED 0, 1", Check.with("tire 1;batter a 15 0 3 0 2 0"), 2, 9, 200, 0);
+        check.due("its WORTH", Check.with("tire 1;batter a 15 0 3 0 2 0").worth(2, 0), 9);
         x = Check.with("tire 2;batter a 18 0 0 0 2 0;batter b 18 0 0 0 2 0;batter c 20 0 0 0 0 0");
         best("two TRIPLES", x, 2, 1, 100, 0, 1, 2);
         // the third one is at FACED 2: c's one SINGLE of 20 brings him home who is on third, 19 of 100
